@@ -794,7 +794,7 @@ public final class MeatForDiamonds {
     }
 
     private static int drawn(int seed, int below) {
-        return below <= 0 ? 0 : (seed & Integer.MAX_VALUE) / 65536 % below;
+        return below <= 0 ? 0 : (seed & 0x7fffffff) / 65536 % below;
     }
 
     /** All that THE IMAGE holds. */
@@ -1048,7 +1048,7 @@ public final class MeatForDiamonds {
             if (sort == BYTES) {
                 return -128;
             }
-            return sort == SHORTS ? -32768 : Integer.MIN_VALUE;
+            return sort == SHORTS ? -32768 : -2147483648;
         }
 
         /** How many digits stand behind a STATEMENT's letter; 0 if it is no such letter. */
@@ -1149,7 +1149,6 @@ public final class MeatForDiamonds {
             costs += figure;
         }
 
-        @Override
         void fail() {
             if (figure != 0) {
                 throw new IllegalArgumentException("a fat one's failure");
@@ -1165,7 +1164,6 @@ public final class MeatForDiamonds {
             costs *= 2;
         }
 
-        @Override
         void fail() {
             if (figure != 0) {
                 throw new UnsupportedOperationException("a tied one's failure");
@@ -1212,7 +1210,6 @@ public final class MeatForDiamonds {
             costs -= 2;
         }
 
-        @Override
         void fail() {
             // Bones have no failure.
         }

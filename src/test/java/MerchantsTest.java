@@ -27,6 +27,7 @@ public final class MerchantsTest {
         merchantsAre("c5900;e3090;s09;", 5, 11);
         merchantsAre("c0400;e3090;s03;", 0, 0);
         merchantsAre("c0200;e3090;s03;", 0, 1);
+        merchantsAre("c4400;e3090;s03;", 4, 0);
         merchantsAre("c0300;e3090;s40;s60;s03;", 0, 20);
         merchantsAre("c0100;e3090;s00;s40;", 0, 12);
         merchantsAre("c0100;e3090;s00;", 0, 1);
@@ -115,6 +116,10 @@ public final class MerchantsTest {
         judgeIs(x, 2, -4, Integer.MIN_VALUE, 0, 0, 0, 0, 15);
         judgeIs(x, 2, 0, -32768, 0, 0, 0, 0, 15);
         judgeIs(x, 2, 3, 15, 0, Integer.MIN_VALUE, 15);
+        Due.row(x, 7, 0, 15, 1);
+        Due.is("the last shelf", x.judge(0, 0, 7), 1);
+        Due.row(x, 0, 0, 15, 1);
+        Due.is("the first shelf", x.judge(0, 0, 0), 1);
         x.set(0, 1);
         judgeIs(x, 0, -4, 15, 15, 7, 0);
         Due.is("nothing is thrown", x.count(2), 6);

@@ -173,6 +173,9 @@ public final class MindTest {
         Due.is("nine of 10 each", all.greedily(20, 0), 90);
         Due.is("nine", all.greedily(20, 1), 9);
         Due.is("no sheep", new MeatForDiamonds().greedily(20, 1), 0);
+        MeatForDiamonds one = Due.valley("c5100;e3090;s39;s40;");
+        Due.is("a gain of 1 is one", one.greedily(20, 0), 1);
+        Due.is("once", one.greedily(20, 1), 1);
         MeatForDiamonds late = Due.valley("c0300;e0410;s06;");
         Due.is("no gain now, no more tried", late.greedily(20, 1), 0);
     }

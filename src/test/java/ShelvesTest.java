@@ -19,6 +19,8 @@ public final class ShelvesTest {
         MeatForDiamonds x = new MeatForDiamonds();
         Due.is("a sheep", x.keep(0, 1, 7, 9), 0);
         Due.is("it is there", x.cost(0), 1);
+        Due.is("the last shelf", x.keep(7, 1, 0, 0), 0);
+        Due.is("it is there", x.cost(7), 3);
         int[][] wrong = {{8, 1, 0, 0}, {-1, 1, 0, 0}, {8, 0, 0, 0}, {0, 2, 0, 0}, {0, -1, 0, 0}, {0, 1, 8, 0}, {0, 1, -1, 0},
             {0, 1, 0, 10}, {0, 1, 0, -1}};
         for (int[] w : wrong) {
@@ -112,6 +114,11 @@ public final class ShelvesTest {
         rowIs(x, 0, 2, 3, 4, 3, 4);
         Due.is("none", x.copy(0, 5, 1, 3, 0), 0);
         rowIs(x, 1, 2, 3, 5);
+        Due.row(x, 7, 1, 8, 9);
+        Due.is("from the last shelf", x.copy(7, 0, 1, 0, 1), 1);
+        Due.is("to the last shelf", x.copy(1, 2, 7, 1, 1), 1);
+        rowIs(x, 7, 8, 5);
+        x.put(1, 0, 2);
         Due.is("all of a row", x.copy(1, 0, 0, 0, 3), 3);
         rowIs(x, 0, 2, 3, 5, 3, 4);
     }

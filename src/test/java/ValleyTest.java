@@ -59,6 +59,7 @@ public final class ValleyTest {
         Due.is("sheep", x.count(1), 2);
         Due.is("the cell is laid anew", x.cellOf(1, 0), 0);
         Due.is("the least numbers", Due.tell(x, "e0100;h01;d0;c0000;t10;"), 5);
+        Due.is("a text that fills its row", Due.tell(x, "h01;".repeat(25)), 25);
         Due.row(x, 2, 0, 'd', '1', ';');
         Due.is("valley(2)", x.valley(2), 1);
         Due.is("the row stays", x.element(2, 0), 'd');
@@ -215,6 +216,8 @@ public final class ValleyTest {
 
     private static void laying() {
         MeatForDiamonds x = new MeatForDiamonds();
+        Due.is("the most", x.lays(7, 9, 9, 9), 0);
+        Due.is("the most", x.cellOf(7, 0) * 100 + x.cellOf(7, 1) * 10 + x.cellOf(7, 2), 999);
         Due.is("lays", x.lays(3, 9, 8, 7), 0);
         Due.is("lays again", x.lays(3, 1, 2, 3), 9);
         Due.is("big", x.cellOf(3, 0), 1);
