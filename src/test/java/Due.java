@@ -1,5 +1,8 @@
+import java.util.function.IntToLongFunction;
+
 /** Compares answers with those that are due; a test's main method ends with end(). */
 final class Due {
+    private static final int[] FAR_OUT = {Integer.MIN_VALUE, Integer.MAX_VALUE};
     private static int wrong;
     private static int compared;
 
@@ -18,6 +21,28 @@ final class Due {
         is(what, holds ? 1 : 0, 1);
     }
 
+    /** A number's range in a call: least and most are not refused, what lies just outside is, and far out too. */
+    static void range(String call, IntToLongFunction number, int least, int most, long refusal) {
+        isTrue(call + " takes " + least, number.applyAsLong(least) != refusal);
+        isTrue(call + " takes " + most, number.applyAsLong(most) != refusal);
+        outside(call, number, least, most, refusal);
+    }
+
+    /** What lies just outside a range is refused, and far out too. */
+    static void outside(String call, IntToLongFunction number, int least, int most, long refusal) {
+        is(call + " of " + (least - 1), number.applyAsLong(least - 1), refusal);
+        is(call + " of " + (most + 1), number.applyAsLong(most + 1), refusal);
+        for (int v : FAR_OUT) {
+            is(call + " of " + v, number.applyAsLong(v), refusal);
+        }
+    }
+
+    /** All is as it was told before: a refused call, and one in mind, changes nothing. */
+    static void unchanged(MeatForDiamonds x, String before) {
+        String after = Told.all(x);
+        isTrue("unchanged:\n" + before + "\n" + after, after.equals(before));
+    }
+
     /** Lays a row of a sort with these elements on a shelf. */
     static void row(MeatForDiamonds x, int d, int sort, int... elements) {
         is("row", x.row(d, sort, elements.length), 0);
@@ -26,9 +51,14 @@ final class Due {
         }
     }
 
+    /** Lays a row of bytes with this text on a shelf. */
+    static void text(MeatForDiamonds x, int d, String text) {
+        row(x, d, 0, text.chars().toArray());
+    }
+
     /** Tells a text by shelf 7, and empties that shelf. */
     static int tell(MeatForDiamonds x, String text) {
-        row(x, 7, 0, text.chars().toArray());
+        text(x, 7, text);
         int answer = x.valley(7);
         x.keep(7, 0, 0, 0);
         return answer;
