@@ -183,8 +183,7 @@ public final class MeatForDiamonds {
     }
 
     public int gain() {
-        int best = now.richestThrow();
-        return best == NONE ? OF_GAIN - NONE : now.gainOf(best / 10, best % 10);
+        return now.flockSize == 0 ? OF_GAIN - NONE : now.richestGain();
     }
 
     public int bestHour(int s, int c, int what) {
@@ -219,8 +218,7 @@ public final class MeatForDiamonds {
             for (int c = 0; c <= now.flock[s].flies; c++) {
                 mind.become(now);
                 int first = mind.throwOnto(s, c) - mind.flock[s].price;
-                int second = mind.richestThrow();
-                int both = first + mind.gainOf(second / 10, second % 10);
+                int both = first + mind.richestGain();
                 if (best == NONE || both > most) {
                     most = both;
                     best = 10 * s + c;
@@ -760,7 +758,9 @@ public final class MeatForDiamonds {
             boolean someFits = false;
             for (int pair = 0; pair < PAIRS; pair++) {
                 rests[pair] = restOf(rests[pair], one.sticks, told.elements[i]);
-                someFits |= rests[pair] != NONE;
+                if (rests[pair] != NONE) {
+                    someFits = true;
+                }
             }
             if (!someFits) {
                 return i;
@@ -965,13 +965,20 @@ public final class MeatForDiamonds {
             int most = 0;
             for (int s = 0; s < flockSize; s++) {
                 int c = richestCell(flock[s]);
-                int more = gainOf(s, c);
+                // Not by gainOf, which would be one call deeper: eight is the most.
+                int more = broughtBy(flock[s], c) - flock[s].price;
                 if (best == NONE || more > most) {
                     most = more;
                     best = 10 * s + c;
                 }
             }
             return best;
+        }
+
+        /** The GAIN of the BEST THROW, 0 without sheep. */
+        int richestGain() {
+            int best = richestThrow();
+            return best == NONE ? 0 : gainOf(best / 10, best % 10);
         }
 
         int gainOf(int s, int c) {

@@ -100,6 +100,8 @@ public final class CameUpEdgesTest {
         stillIs(x, 0, 0, -4, Integer.MAX_VALUE);
         stillIs(x, 0, 0, -4, Integer.MIN_VALUE);
         stillIs(x, 0, 0, -4, 0, 1);
+        stillIs(x, 0, 0, -4, 5, -4);
+        stillIs(x, 2, 0, -4, 7, -4, 0);
         stillIs(x, 0, 0, -4, 1, 5);
         stillIs(x, 0, 0, -4, 5, 5, 5, 5, 5, 5, 5, 5, 5, 5);
         stillIs(x, 0, 0, -4, 1, 1, 1, 1, 1, 1, 1, 1, 1, 1);
@@ -223,6 +225,7 @@ public final class CameUpEdgesTest {
     private static void tellsMostNoPair() {
         MeatForDiamonds x = Due.valley(SHEEP);
         mostIs(x, 0, -4, -4, 2);
+        mostIs(x, 0, -4, -4, 5, -4);
         mostIs(x, 3, -4, -4, 0, 1);
         mostIs(x, 4, -4, -4, -1);
     }

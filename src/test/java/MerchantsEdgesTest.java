@@ -108,6 +108,14 @@ public final class MerchantsEdgesTest {
         merchantsAre("c0900;e0390;s06;s40;", 0, 1);
         merchantsAre("c0900;e0390;s06;s40;d1;", 0, 0);
         merchantsAre("c0900;e3000;s06;s69;d1;", 0, 11);
+        // As it is now, whatever was thrown in mind or truly ahead of it.
+        MeatForDiamonds y = Due.valley("c0300;e3090;s06;s40;");
+        y.greedily(20, 0);
+        Due.is("as it is now", y.merchants(0), 2);
+        y.throwsOne(1, 0);
+        Due.is("two BIG ones left", y.merchants(0), 2);
+        y.throwsOne(1, 0);
+        Due.is("one BIG one left", y.merchants(0), 12);
         // Eaten first, at 10, the other's throw at noon is not.
         MeatForDiamonds x = Due.valley("c0909;e3090;s63;s06;h04;");
         Due.is("thrown for nothing, then at noon", x.merchants(0), 1);
@@ -240,6 +248,8 @@ public final class MerchantsEdgesTest {
         forgedIs(x, 0, 0, -1);
         forgedIs(x, 0, 0, MIN);
         forgedIs(x, 0, 1, 5, MAX, 2);
+        forgedIs(x, 0, 1, 5, -4);
+        forgedIs(x, 1, 1, 7, -4, -4);
         forgedIs(x, 0, 9, 5, 5, 5, 5, 5, 5, 5, 5, 5, 5, 5);
         forgedIs(x, 0, 9, 1, 1, 1, 1, 1, 1, 1, 1, 1, 1, 1);
         forgedIs(x, 0, 1, 0, 5);

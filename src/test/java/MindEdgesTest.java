@@ -38,6 +38,8 @@ public final class MindEdgesTest {
         greedilyNoThrow();
         greedilyTwentyAtMost();
         greedilyAsLongAsGainIsAboveZero();
+        greedilyOfAllSheepAndCells();
+        inMindLeavesNoTrace();
         drumRanges();
         drumTooFar();
         drumNoThrow();
@@ -315,6 +317,9 @@ public final class MindEdgesTest {
         twoAre("c0600;e0390;s06;", 10 - 5, 0);
         twoAre("c0600;e0390;s06;d1;", 20, 0);
         twoAre("c0600;e0790;s06;", 20, 0);
+        // The painted one first feeds the EAGLE a little: the other weighs 15.
+        twoAre("c0900;e0990;s40;s09;", 1 + 15, 0);
+        twoAre("c0900;e0690;s40;s09;", 15 + 1, 10);
         // EATEN at 10, not at 11.
         MeatForDiamonds x = Due.valley("c0309;e3090;s06;h04;");
         Due.is("HOUR", x.count(2), 10);
@@ -373,6 +378,39 @@ public final class MindEdgesTest {
         // It would gain later, but not now.
         greedyIs(Due.valley("c0300;e0280;s06;"), 20, 0, 0);
         greedyIs(Due.valley("c0300;e0390;s06;"), 20, 10, 1);
+    }
+
+    /** "the BEST THROW again and again": of whichever SHEEP, onto whichever CELL. */
+    private static void greedilyOfAllSheepAndCells() {
+        greedyIs(Due.valley("c0900;e3090;s39;s39;s09;"), 20, 15 + 15, 2);
+        greedyIs(Due.valley("c0300;c4120;c7900;e3090;s39;s06;s16;s69;"), 20, 15 + 3 * 15 + 7, 5);
+    }
+
+    private static void inMindLeavesNoTrace() {
+        String text = "c0906;c3221;e0390;e2072;s06;s40;s63;";
+        String[] due = new String[8];
+        for (int first = 0; first < 8; first++) {
+            MeatForDiamonds x = Due.valley(text);
+            for (int i = 0; i < 8; i++) {
+                int call = (first + i) % 8;
+                String answers = inMind(x, call);
+                due[call] = due[call] == null ? answers : due[call];
+                Due.isTrue("call " + call + ", the " + i + ". behind " + first + ": " + answers, answers.equals(due[call]));
+            }
+        }
+    }
+
+    private static String inMind(MeatForDiamonds x, int call) {
+        return switch (call) {
+            case 0 -> x.greedily(20, 0) + " " + x.greedily(20, 1);
+            case 1 -> x.merchants(0) + " " + x.merchants(3);
+            case 2 -> x.seasons(3, 7, 0) + " " + x.seasons(3, 7, 1);
+            case 3 -> x.twoThrows(0) + " " + x.twoThrows(1);
+            case 4 -> x.bestHour(0, 0, 0) + " " + x.bestHour(0, 3, 1);
+            case 5 -> x.drum(0, 0, 8, 0) + " " + x.drum(1, 3, 8, 1);
+            case 6 -> x.man(12) + " " + x.man(29);
+            default -> x.bestThrow() + " " + x.gain();
+        };
     }
 
     /** Promise 19: "n THROWS (0 .. 8)"; "-1, -3". */

@@ -1,0 +1,86 @@
+import java.io.IOException;
+import java.nio.charset.StandardCharsets;
+import java.nio.file.Files;
+import java.nio.file.Path;
+import java.util.Arrays;
+import java.util.List;
+import java.util.Set;
+import java.util.regex.Matcher;
+import java.util.regex.Pattern;
+
+/** Those rules of LANGUAGE.md that can be seen in the class's text. Started in the checkout's top folder, as .ci/run does. */
+public final class LanguageTest {
+    private static final Path SOURCE = Path.of("src/main/java/MeatForDiamonds.java");
+    private static final Set<String> LIBRARY = Set.of("System.arraycopy", "Math.min", "Math.max", "Long.bitCount");
+    private static final Set<String> EXCEPTIONS = Set.of("IllegalStateException", "IllegalArgumentException",
+        "UnsupportedOperationException");
+    private static final int LONGEST_METHOD = 60;
+    private static final int MOST_CLASSES = 12;
+    private static final int MOST_PARAMETERS = 7;
+
+    private LanguageTest() {
+    }
+
+    public static void main(String[] args) throws IOException {
+        String source = Files.readString(SOURCE, StandardCharsets.ISO_8859_1);
+        Due.isTrue("signs 1 to 127", source.chars().allMatch(sign -> sign > 0 && sign < 128));
+        String code = withoutTexts(source);
+        wordsThatMayNotStand(code);
+        libraryCalls(code);
+        exceptions(code);
+        Due.isTrue("classes", all("\\b(class|interface|enum|record) \\w+", code).size() <= MOST_CLASSES);
+        methods(code);
+        Due.end();
+    }
+
+    /** Without comments and written texts. */
+    private static String withoutTexts(String source) {
+        return source.replaceAll("\"[^\"\\n]*\"", "\"\"").replaceAll("(?s)/\\*.*?\\*/", "").replaceAll("//[^\\n]*", "");
+    }
+
+    private static List<String> all(String pattern, String code) {
+        return Pattern.compile(pattern).matcher(code).results().map(r -> r.group()).toList();
+    }
+
+    private static void wordsThatMayNotStand(String code) {
+        String[] patterns = {"\\bimport\\b", "\\bpackage\\b", "->", "::", "\\bfinally\\b", "\\bsynchronized\\b", "\\bassert\\b",
+            "\\bprotected\\b", "\\bvar\\b", "\\bObject\\b", "\\bequals\\b", "\\bhashCode\\b", "\\btoString\\b", "\\bThread\\b",
+            "\\bgetMessage\\b", "[|&^]= [^;]*(==|!=|<=|>=| < | > )", "static \\{"};
+        for (String pattern : patterns) {
+            Due.isTrue(pattern + " stands in the class", all(pattern, code).isEmpty());
+        }
+    }
+
+    private static void libraryCalls(String code) {
+        String classes = "\\b(System|Math|Long|Integer|Arrays|String|StringBuilder|List|ArrayList|Character|Boolean)\\b(\\.\\w+)?";
+        for (String call : all(classes, code)) {
+            Due.isTrue(call + " is of the library that is used", LIBRARY.contains(call));
+        }
+    }
+
+    /** None that the machine throws is caught, nor a class above one. */
+    private static void exceptions(String code) {
+        Matcher named = Pattern.compile("(?:throw new |catch \\()(\\w+)").matcher(code);
+        int found = 0;
+        while (named.find()) {
+            found++;
+            Due.isTrue(named.group(1) + " is one of the exceptions", EXCEPTIONS.contains(named.group(1)));
+        }
+        Due.isTrue("some are there", found > 0);
+        Due.is("throw statements that throw new ones", all("\\bthrow new \\w+", code).size(), all("\\bthrow\\b", code).size());
+    }
+
+    private static void methods(String code) {
+        Matcher head = Pattern.compile("(?m)^( +)(?:\\w+(?:\\[\\])* )*\\w+\\(([^()]*)\\)(?: throws [\\w, ]+)? \\{$").matcher(code);
+        int found = 0;
+        while (head.find()) {
+            found++;
+            int end = code.indexOf("\n" + head.group(1) + "}\n", head.end());
+            String method = code.substring(head.start(), end);
+            String name = method.strip().lines().findFirst().orElse("");
+            Due.isTrue(name + " is short", method.lines().count() <= LONGEST_METHOD);
+            Due.isTrue(name + " takes few", Arrays.stream(head.group(2).split(",")).count() <= MOST_PARAMETERS);
+        }
+        Due.isTrue("methods are found: " + found, found > 100);
+    }
+}
