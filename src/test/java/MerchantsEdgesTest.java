@@ -169,6 +169,15 @@ public final class MerchantsEdgesTest {
         quarrelOf(9, 1, 8, 0, 9, 0, 9);
         quarrelOf(9, 3, 6, 3, 0, 0, 9);
         quarrelOf(2, 2, 1, 3, 2, 4, 4);
+        // Each NEST alone with the most, and each alone with the least.
+        for (int n = 0; n < 4; n++) {
+            int[] rich = {1, 1, 1, 1};
+            rich[n] = 8;
+            quarrelOf(7, n, 5, rich);
+            int[] poor = {7, 7, 7, 7};
+            poor[n] = 0;
+            quarrelOf(7, n == 0 ? 1 : 0, 5, poor);
+        }
     }
 
     /** "how much must change NESTS so that no two differ by more than 1". */
