@@ -19,6 +19,7 @@ public final class ImageEdgesTest {
         countNothing();
         countAllThereCanBe();
         countOfEach();
+        countWhateverTheHour();
         Due.end();
     }
 
@@ -212,5 +213,17 @@ public final class ImageEdgesTest {
         Due.is("two NESTS", x.nest(0) * 100 + x.nest(3), 1505);
         Due.is("WORTH of all NESTS", x.count(6), 20);
         Due.is("HUNGER: 4 and 5, fed by 4 and 1 more each", x.count(7), 9 - 4 + 1 - 4 + 1);
+    }
+
+    private static void countWhateverTheHour() {
+        MeatForDiamonds x = Due.valley("e3010;e2021;e1042;e0583;s00;s00;d1;c0110;c7220;");
+        int[] due = {4, 2, 0, 1, 3, 3, 0, 15};
+        for (int hour = 0; hour < 24; hour++) {
+            x.set(1, hour);
+            due[2] = hour;
+            for (int what = 0; what < 8; what++) {
+                Due.is("count(" + what + ") at " + hour, x.count(what), due[what]);
+            }
+        }
     }
 }

@@ -4,7 +4,9 @@ import java.nio.file.Files;
 import java.nio.file.Path;
 import java.util.Arrays;
 import java.util.List;
+import java.util.Map;
 import java.util.Set;
+import java.util.TreeMap;
 import java.util.regex.Matcher;
 import java.util.regex.Pattern;
 
@@ -17,6 +19,7 @@ public final class LanguageTest {
     private static final int LONGEST_METHOD = 60;
     private static final int MOST_CLASSES = 12;
     private static final int MOST_PARAMETERS = 7;
+    private static final int DEEPEST_CALLS = 8;
 
     private LanguageTest() {
     }
@@ -71,16 +74,40 @@ public final class LanguageTest {
     }
 
     private static void methods(String code) {
-        Matcher head = Pattern.compile("(?m)^( +)(?:\\w+(?:\\[\\])* )*\\w+\\(([^()]*)\\)(?: throws [\\w, ]+)? \\{$").matcher(code);
+        Matcher head = Pattern.compile("(?m)^( +)(?:\\w+(?:\\[\\])* )*(\\w+)\\(([^()]*)\\)(?: throws [\\w, ]+)? \\{$").matcher(code);
+        Map<String, String> bodies = new TreeMap<>();
         int found = 0;
         while (head.find()) {
             found++;
             int end = code.indexOf("\n" + head.group(1) + "}\n", head.end());
             String method = code.substring(head.start(), end);
             String name = method.strip().lines().findFirst().orElse("");
+            bodies.merge(head.group(2), code.substring(head.end(), end).replace("super(", above(head.group(2), code)), String::concat);
             Due.isTrue(name + " is short", method.lines().count() <= LONGEST_METHOD);
-            Due.isTrue(name + " takes few", Arrays.stream(head.group(2).split(",")).count() <= MOST_PARAMETERS);
+            Due.isTrue(name + " takes few", Arrays.stream(head.group(3).split(",")).count() <= MOST_PARAMETERS);
         }
         Due.isTrue("methods are found: " + found, found > 100);
+        for (String name : bodies.keySet()) {
+            int deep = depth(name, bodies, 1);
+            Due.isTrue(name + " goes " + deep + " calls deep", deep <= DEEPEST_CALLS);
+        }
+    }
+
+    /** How the class above one is called, or the machine's own. */
+    private static String above(String name, String code) {
+        Matcher head = Pattern.compile("class " + name + " extends (\\w+)").matcher(code);
+        return head.find() ? head.group(1) + "(" : "super(";
+    }
+
+    /** How many calls stand open at most from a method on; methods of one name count as one, a constructor calls that above it. */
+    private static int depth(String name, Map<String, String> bodies, int open) {
+        int deepest = 1;
+        Matcher called = Pattern.compile("\\b(\\w+)\\(").matcher(bodies.get(name));
+        // Beyond the most there is no need to look on; a method that calls itself would never end.
+        while (called.find() && open <= DEEPEST_CALLS) {
+            boolean own = bodies.containsKey(called.group(1));
+            deepest = Math.max(deepest, 1 + (own ? depth(called.group(1), bodies, open + 1) : 1));
+        }
+        return deepest;
     }
 }

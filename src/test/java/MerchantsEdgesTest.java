@@ -35,6 +35,8 @@ public final class MerchantsEdgesTest {
         seasonsEachFromNow();
         seasonsDrawACellItFliesTo();
         seasonsOfSeedsThatWrapAround();
+        seasonsDrawASheepOfAllThereAre();
+        seasonsDrawACellBehindItsSheep();
         Due.end();
     }
 
@@ -458,5 +460,56 @@ public final class MerchantsEdgesTest {
             eaten += cell == 5 ? 0 : 1;
         }
         return eaten;
+    }
+
+    /** "a SHEEP by a DRAW below as many as there are". */
+    private static void seasonsDrawASheepOfAllThereAre() {
+        int[] seeds = {0, 1, -1, 77, MIN, MAX};
+        for (int size = 2; size <= 7; size++) {
+            for (int bone = 0; bone < size; bone++) {
+                StringBuilder flock = new StringBuilder("e3090;");
+                for (int s = 0; s < size; s++) {
+                    flock.append(s == bone ? "s70;" : "s69;");
+                }
+                MeatForDiamonds x = everywhere(flock.toString(), 0, 2);
+                x.set(1, 14);
+                for (int z : seeds) {
+                    Due.is("only the BONE is EATEN, seed " + z, x.seasons(4, z, 1), drawnSheep(z, 40, size, bone));
+                }
+            }
+        }
+    }
+
+    private static int drawnSheep(long z, int throwsOfAll, int size, int sheep) {
+        int often = 0;
+        for (int i = 0; i < throwsOfAll; i++) {
+            z = (z * 1103515245L + 12345L) & 0xffffffffL;
+            often += (z & 0x7fffffffL) / 65536 % size == sheep ? 1 : 0;
+            z = (z * 1103515245L + 12345L) & 0xffffffffL;
+        }
+        return often;
+    }
+
+    /** The SHEEP is drawn first, and the CELL below 1 plus that one's FLIES. */
+    private static void seasonsDrawACellBehindItsSheep() {
+        int[] seeds = {0, 1, -1, 77, MIN, MAX};
+        for (int c = 0; c < 8; c++) {
+            MeatForDiamonds x = Due.valley("s00;s10;s20;s70;c" + c + "009;");
+            x.set(1, 14);
+            for (int z : seeds) {
+                Due.is("EATEN in one cell alone, seed " + z, x.seasons(4, z, 1), drawnCell(z, 40, new int[] {4, 6, 3, 7}, c));
+            }
+        }
+    }
+
+    private static int drawnCell(long z, int throwsOfAll, int[] flies, int cell) {
+        int often = 0;
+        for (int i = 0; i < throwsOfAll; i++) {
+            z = (z * 1103515245L + 12345L) & 0xffffffffL;
+            int far = flies[(int) ((z & 0x7fffffffL) / 65536 % flies.length)];
+            z = (z * 1103515245L + 12345L) & 0xffffffffL;
+            often += (z & 0x7fffffffL) / 65536 % (1 + far) == cell ? 1 : 0;
+        }
+        return often;
     }
 }

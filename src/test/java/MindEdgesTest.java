@@ -17,6 +17,7 @@ public final class MindEdgesTest {
         bestCellOfSeveralTheLeast();
         bestCellNoFartherThanItFlies();
         bestCellIfNoneBringsAnything();
+        bestCellOnlyIfSomeEagleLiftsIt();
         bestThrowOfNoSheep();
         bestThrowOfSeveralTheLeast();
         bestThrowLessItsPrice();
@@ -151,6 +152,21 @@ public final class MindEdgesTest {
         Due.is("no EAGLE", Due.valley("c3990;s09;").bestCell(0), 0);
         Due.is("BONE", Due.valley("c3990;e3090;s79;").bestCell(0), 0);
         Due.is("EATEN", Due.valley("c3999;e3090;s09;").bestCell(0), 0);
+    }
+
+    /** A sheep that no EAGLE lifts brings 0 wherever it is thrown. */
+    private static void bestCellOnlyIfSomeEagleLiftsIt() {
+        int[] weight = {15, 12, 19, 27, 12, 38, 12};
+        for (int kind = 0; kind < weight.length; kind++) {
+            for (int lacks = 0; lacks < 2; lacks++) {
+                int hunger = Math.max(0, weight[kind] - 30);
+                int strength = weight[kind] - hunger - lacks;
+                String eagle = "e" + strength / 10 + strength % 10 + hunger + "0;";
+                MeatForDiamonds x = Due.valley("c1990;" + eagle + "s" + kind + "9;");
+                Due.is(kind + " by " + eagle + ", best cell", x.bestCell(0), 1 - lacks);
+                Due.is(kind + " by " + eagle + ", best throw", x.bestThrow(), 1 - lacks);
+            }
+        }
     }
 
     /** Promise 14: "-4 no SHEEP". */

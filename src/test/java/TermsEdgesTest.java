@@ -50,6 +50,8 @@ public final class TermsEdgesTest {
         for (int kind = 0; kind < 8; kind++) {
             for (int f = 0; f < 10; f++) {
                 MeatForDiamonds x = withSheep(kind, f, "");
+                Due.is("KIND", x.sheep(0, 0), kind);
+                Due.is("FIGURE", x.sheep(0, 1), f);
                 int[] due = numbersOf(kind, f);
                 for (int i = 0; i < due.length; i++) {
                     Due.is("sheep " + kind + " " + f + ", what " + (i + 2), x.sheep(0, i + 2), due[i]);
