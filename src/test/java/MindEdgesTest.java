@@ -47,6 +47,8 @@ public final class MindEdgesTest {
         drumOfSeveralTheLeast();
         drumEightThrows();
         drumWhateverDrumsAreNow();
+        everySheepOntoEveryCell();
+        eatenInThatCellAlone();
         Due.end();
     }
 
@@ -498,5 +500,40 @@ public final class MindEdgesTest {
         drumIs(x, 3, 3, 45);
         drumIs(x, 8, 1, 45);
         Due.unchanged(x, before);
+    }
+
+    /** Promises 10, 12, 16, 19, 27 and 32: that SHEEP, that CELL, and no other. */
+    private static void everySheepOntoEveryCell() {
+        int[][] brought = {{0, 1, 1, 1, 5, 5, 5, 5}, {0, 1, 2, 3, 5, 6, 7, 10}, {0, 1, 2, 2, 5, 6, 6, 10}};
+        MeatForDiamonds x = Due.valley("c0000;c1010;c2020;c3030;c4100;c5110;c6120;c7200;e3090;s63;s69;s66;");
+        x.image();
+        for (int s = 0; s < 3; s++) {
+            for (int c = 0; c < 8; c++) {
+                int due = brought[s][c];
+                String which = "sheep " + s + " onto cell " + c;
+                Due.is(which + ", brings", x.brings(s, c, 0), due);
+                Due.is(which + ", bestHour", x.bestHour(s, c, 1), due);
+                Due.is(which + ", drum", x.drum(s, c, 1, 1), due);
+                Due.is(which + ", whose", x.whose(c, due) >> s & 1, 1);
+                Due.row(x, 0, 0, due);
+                Due.is(which + ", judge", x.judge(s, c, 0), -4);
+                x.put(0, 0, due + 1);
+                Due.is(which + ", judge", x.judge(s, c, 0), 0);
+                Due.is(which + ", throwsOne", x.throwsOne(s, c), due);
+                x.restore();
+            }
+        }
+    }
+
+    private static void eatenInThatCellAlone() {
+        for (int nine = 0; nine < 8; nine++) {
+            MeatForDiamonds x = Due.valley("c" + nine + "009;e3092;s63;s69;s66;");
+            for (int s = 0; s < 3; s++) {
+                for (int c = 0; c < 8; c++) {
+                    bringsAre(x, s, c, 0, c == nine ? -4 : 0, c == nine ? -4 : 2, c == nine ? 1 : 0);
+                }
+                Due.is("safe", x.safe(s), 255 - (1 << nine));
+            }
+        }
     }
 }

@@ -25,6 +25,9 @@ public final class NowTest {
         answersStay("c0340;c1205;c4999;e2080;s06;", "e1091;e2032;s69;s40;d1;h03;t10;c2110;");
         answersStay("s59;s03;s70;c0993;c1227;e3093;e0592;t01;", "e1091;c7310;s49;d1;t01;d0;t21;t36;");
         answersStay("c0909;c3440;s09;s60;h05;", "e2013;e2123;e2512;e1001;t13;t00;c2550;");
+        boughtAfterwards("c0340;c1205;c2110;", "e2080;e1091;d1;h03;", "s69;s06;s40;s29;");
+        boughtAfterwards("c0909;c1223;c3440;", "e2013;e3012;h05;", "s03;s59;s60;s10;s73;");
+        boughtAfterwards("c0110;c2550;", "", "s70;");
         Due.end();
     }
 
@@ -58,16 +61,18 @@ public final class NowTest {
         }
     }
 
-    /** Shelf 1 holds a row. */
     private static void callsByTheRow() {
         for (int sheep = 0; sheep < 5; sheep++) {
             int s = sheep;
-            for (int number = 0; number < 3; number++) {
-                int what = number;
-                add("still " + s + what, x -> x.still(s, 1, what));
-                add("tellsMost " + s + what, x -> x.tellsMost(s, 1, what));
+            for (int shelf : new int[] {1, 3, 4}) {
+                int d = shelf;
+                for (int number = 0; number < 3; number++) {
+                    int what = number;
+                    add("still " + s + d + what, x -> x.still(s, d, what));
+                    add("tellsMost " + s + d + what, x -> x.tellsMost(s, d, what));
+                }
+                add("forged " + s + d, x -> x.forged(s, d));
             }
-            add("forged " + s, x -> x.forged(s, 1));
         }
     }
 
@@ -111,9 +116,12 @@ public final class NowTest {
         Due.isTrue("text " + text, text.isEmpty() || Due.tell(x, text) > 0);
     }
 
+    /** A row that no pair fits, one that all fit, one that some fit. */
     private static MeatForDiamonds withShelves() {
         MeatForDiamonds x = new MeatForDiamonds();
         Due.row(x, 1, 1, 5, 5, -32768, 0);
+        Due.row(x, 3, 0);
+        Due.row(x, 4, 2, 5);
         x.keep(2, 1, 3, 4);
         return x;
     }
@@ -156,6 +164,32 @@ public final class NowTest {
             same(call, due, after, bySteps(first, then), ", by steps: " + first + then);
             same(call, due, after, byImage(first, then), ", by image: " + first + then);
         }
+    }
+
+    /** Sheep are bought, not told, where other ones had been told and restored away, or none. */
+    private static void boughtAfterwards(String first, String then, String flock) {
+        for (Call call : CALLS) {
+            MeatForDiamonds x = straight(first, then + flock);
+            long due = call.made().applyAsLong(x);
+            String after = Told.valley(x);
+            MeatForDiamonds others = straight(first, then);
+            others.image();
+            tellIfAny(others, "s50;s35;s14;s09;s49;c0770;h09;t00;");
+            others.restore();
+            buy(others, flock);
+            same(call, due, after, others, ", other ones: " + first + then + flock);
+            MeatForDiamonds none = straight(first, then);
+            buy(none, flock);
+            same(call, due, after, none, ", none: " + first + then + flock);
+        }
+    }
+
+    private static void buy(MeatForDiamonds x, String flock) {
+        for (int at = 0; at < flock.length(); at += 4) {
+            x.keep(2, 1, flock.charAt(at + 1) - '0', flock.charAt(at + 2) - '0');
+            Due.isTrue("bought", x.buys(2) >= 0);
+        }
+        x.keep(2, 1, 3, 4);
     }
 
     private static void same(Call call, long due, String after, MeatForDiamonds x, String how) {

@@ -22,6 +22,7 @@ public final class TextEdgesTest {
         noRoomForSheep();
         theFirstThatCannotBeDone();
         eachOnWhatThoseAheadMade();
+        anEagleMoreLeavesTheOthers();
         withOneNothing();
         withoutFaultAllOfIt();
         refusedShelves();
@@ -249,6 +250,20 @@ public final class TextEdgesTest {
         Due.is("both throws", y.nest(0), 20);
         Due.is("WARY", y.eagle(0, 3), 1);
         Due.is("HOUR", y.count(2), (6 + 1 + 20 + 1) % 24);
+    }
+
+    /** "an EAGLE more", WARY 0: those that were there stay as they are. */
+    private static void anEagleMoreLeavesTheOthers() {
+        for (int drums = 0; drums < 2; drums++) {
+            MeatForDiamonds x = Due.valley("s06;d1;e3091;e2992;e2893;" + "t00;".repeat(11));
+            Due.is("DRUMS", Due.tell(x, "d" + drums + ";e2700;"), 2);
+            int[][] due = {{30, 9, 1, 5}, {29, 9, 2, 5}, {28, 9, 3, 1}, {27, 0, 0, 0}};
+            for (int e = 0; e < 4; e++) {
+                for (int what = 0; what < 4; what++) {
+                    Due.is("eagle " + e + ", what " + what, x.eagle(e, what), due[e][what]);
+                }
+            }
+        }
     }
 
     /** "Without FAULT all of it comes, with one nothing." */
